@@ -27,9 +27,6 @@ public final class TakeOrPay {
     private static final int LANES = 3;
     private static final int WORDS = 8;
 
-    /** A cell is one COUNTED, MADE and CREDIT of a day. */
-    private static final int CELLS = (MOST_CREDIT + 1) * (MOST_MADE + 1) * (MOST_COUNTED + 1);
-
     // What a page tells, numbered as told() asks for it.
     private static final int YEARS = 0;
     private static final int DAYS = 1;
@@ -1163,6 +1160,13 @@ public final class TakeOrPay {
      * chance is ever rounded; 20 days of at most 2 to the 20 hundredths stay below 2 to the 60.
      */
     private static final class Best {
+        // A year that follows another begins without MADE or without CREDIT: who was SHORT has
+        // nothing over. Only a place that is asked for may have both; so a cell is COUNTED with
+        // MADE alone, with CREDIT alone, or with MADE beside the one CREDIT that is asked for.
+        private static final int COUNTS = MOST_COUNTED + 1;
+        private static final int OWN_CELLS = (MOST_MADE + 1 + MOST_CREDIT) * COUNTS;
+        private static final int CELLS = OWN_CELLS + MOST_MADE * COUNTS;
+
         // For each day, cell and state of the day before: what is expected from that day on.
         private final long[] ahead = new long[MOST_DAYS * CELLS * STATES];
         // A day's cell is reckoned where its stamp is the present one: so nothing is cleared.
@@ -1175,6 +1179,9 @@ public final class TakeOrPay {
         private final long[] parts = new long[MOST_DAYS + 1];
         private Page page;
         private int stamp;
+        private int askedStamp;
+        private int askedCredit;
+        private int stampsGiven;
         private long chosenWorth;
 
         private Best() {
@@ -1206,7 +1213,9 @@ public final class TakeOrPay {
 
         private void begin(Page of) {
             page = of;
-            stamp++;
+            stampsGiven++;
+            stamp = stampsGiven;
+            askedCredit = 0;
             for (int day = 0; day <= of.total; day++) {
                 parts[day] = 1L << 2 * (of.total - day);
             }
@@ -1222,7 +1231,32 @@ public final class TakeOrPay {
         }
 
         private static int cell(int counted, int made, int credit) {
-            return (credit * (MOST_MADE + 1) + made) * (MOST_COUNTED + 1) + counted;
+            if (made == 0 || credit == 0) {
+                return (made > 0 ? MOST_CREDIT + made : credit) * COUNTS + counted;
+            }
+            return OWN_CELLS + (made - 1) * COUNTS + counted;
+        }
+
+        private static int countedOf(int ownCell) {
+            return ownCell % COUNTS;
+        }
+
+        private static int madeOf(int ownCell) {
+            return Math.max(0, ownCell / COUNTS - MOST_CREDIT);
+        }
+
+        private static int creditOf(int ownCell) {
+            return ownCell / COUNTS > MOST_CREDIT ? 0 : ownCell / COUNTS;
+        }
+
+        /** Settles a place that is asked for: beside MADE, its CREDIT becomes the one at hand. */
+        private void prepare(int day, int counted, int made, int credit) {
+            if (made > 0 && credit > 0 && credit != askedCredit) {
+                stampsGiven++;
+                askedStamp = stampsGiven;
+                askedCredit = credit;
+            }
+            settle(this, day, counted, made, credit);
         }
 
         /** Reckons what is expected from a day's cell on; the day bounds the depth. */
@@ -1231,8 +1265,10 @@ public final class TakeOrPay {
             if (day >= page.total) {
                 return;
             }
-            int at = day * CELLS + cell(counted, made, credit);
-            if (best.stamps[at] == best.stamp) {
+            int cell = cell(counted, made, credit);
+            int stamp = cell < OWN_CELLS ? best.stamp : best.askedStamp;
+            int at = day * CELLS + cell;
+            if (best.stamps[at] == stamp) {
                 return;
             }
             Move move = best.moves[day];
@@ -1256,7 +1292,7 @@ public final class TakeOrPay {
                 best.ahead[STATES * at + s] = page.chance(s, 0) * worth0
                     + page.chance(s, 1) * worth1 + page.chance(s, 2) * worth2;
             }
-            best.stamps[at] = best.stamp;
+            best.stamps[at] = stamp;
         }
 
         /** The worth of a day's move that was made, all behind it being settled. */
@@ -1293,11 +1329,11 @@ public final class TakeOrPay {
     /** What is expected from the first day on, if the best is taken. */
     private static final class Spread {
         // By cell and state known: how many parts of all chances of a day are there.
-        private long[] chances = new long[CELLS * STATES];
-        private long[] chancesBehind = new long[CELLS * STATES];
+        private long[] chances = new long[Best.OWN_CELLS * STATES];
+        private long[] chancesBehind = new long[Best.OWN_CELLS * STATES];
         // Where there are any, so that only these are gone through.
-        private int[] places = new int[CELLS * STATES];
-        private int[] placesBehind = new int[CELLS * STATES];
+        private int[] places = new int[Best.OWN_CELLS * STATES];
+        private int[] placesBehind = new int[Best.OWN_CELLS * STATES];
         private int held;
         private int heldBehind;
         private final Move move = new Move();
@@ -1309,7 +1345,7 @@ public final class TakeOrPay {
 
         private void reckon(Best best) {
             Page page = best.page;
-            Best.settle(best, 0, 0, 0, 0);
+            best.prepare(0, 0, 0, 0);
             seller = 0;
             taken = 0;
             shorts = 0;
@@ -1354,10 +1390,9 @@ public final class TakeOrPay {
             Page page = best.page;
             long chance = chances[place];
             int s = place % STATES;
-            int cell = place / STATES;
-            int counted = cell % (MOST_COUNTED + 1);
-            int made = cell / (MOST_COUNTED + 1) % (MOST_MADE + 1);
-            int credit = cell / ((MOST_COUNTED + 1) * (MOST_MADE + 1));
+            int counted = Best.countedOf(place / STATES);
+            int made = Best.madeOf(place / STATES);
+            int credit = Best.creditOf(place / STATES);
             int x = best.choose(day, counted, made, credit, s);
             move.take(page, day, counted, made, credit, x);
             move.close(page, day);
@@ -1436,7 +1471,7 @@ public final class TakeOrPay {
                 best.open(page);
                 bestOpen = true;
             }
-            Best.settle(best, day, counted, made, credit);
+            best.prepare(day, counted, made, credit);
             return best;
         }
 
@@ -1520,7 +1555,7 @@ public final class TakeOrPay {
             }
             makeTrialRoom();
             trialBest.openKnowing(page, row);
-            Best.settle(trialBest, 0, 0, 0, 0);
+            trialBest.prepare(0, 0, 0, 0);
             trialBest.choose(0, 0, 0, 0, 0);
             cameGain = (int) (trialBest.chosenWorth >> 2 * page.total);
             cameTakings = 0;
