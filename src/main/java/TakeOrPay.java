@@ -583,10 +583,10 @@ public final class TakeOrPay {
             System.arraycopy(from.terms, 0, terms, 0, TERMS);
         }
 
+        /** The terms and shut days of another; what follows from them is to be reckoned yet. */
         private void copyAll(Page from) {
             copyTerms(from);
             System.arraycopy(from.shutBy, 0, shutBy, 0, MOST_DAYS);
-            reckon();
         }
 
         private void openAllDays() {

@@ -30,6 +30,7 @@ public final class PromisesTest {
         takesMadeUp();
         ends();
         best();
+        bestBesideCredit();
         worth();
         worthOf();
         whole();
@@ -49,6 +50,8 @@ public final class PromisesTest {
         read();
         torn();
         count();
+        pageChanges();
+        rowChanges();
         CHECK.finish();
     }
 
@@ -212,6 +215,20 @@ public final class PromisesTest {
         refused("base {;", 1, 5);
         refused("base /;", 1, 5);
         refused("1000;", 1, 0);
+        refused("basez 5;", 1, 0);
+        refused("made nobody;", 2, 5);
+        bytesCutOff("base 5; ", 3, 1, 0);
+        bytesCutOff("base 12;", 6, 2, 6);
+        bytesCutOff("base 5; ", 6, 2, 6);
+    }
+
+    /** What stood behind the end once is no part of the text. */
+    private static void bytesCutOff(String text, int n, int fault, int place) {
+        TakeOrPay x = new TakeOrPay();
+        x.feed(Check.eight(text, 0));
+        x.end(n);
+        due("page of '" + text + "' to " + n, x.page(), -10 - place);
+        due("fault of '" + text + "' to " + n, x.fault(), fault);
     }
 
     private static void faults() {
@@ -420,6 +437,12 @@ public final class PromisesTest {
         due("seller free, 6 less 6/4", seller.whose(0, 0), 5);
         due("buyer not", seller.whose(0, 1), 6);
         due("nobody not", seller.whose(0, 2), 6);
+        TakeOrPay buyer = Check.told("free buyer;");
+        buyer.shut(1, 0);
+        due("buyer free", buyer.whose(0, 1), 5);
+        due("seller not", buyer.whose(0, 0), 6);
+        due("nobody not", buyer.whose(0, 2), 6);
+        due("that day is nobody's", buyer.year(0, 1), 6);
         int[] wrong = {-1, 3, LOW, HIGH};
         for (int what : wrong) {
             due("what", x.whose(0, what), BAD);
@@ -554,6 +577,22 @@ public final class PromisesTest {
         badPlaces(x);
     }
 
+    private static void bestBesideCredit() {
+        CHECK.at("promises 12, 13, MADE beside CREDIT");
+        // At 15 always: each of MADE wins 100, each of DUE loses 500 and is worth it; 4 wait for day 1.
+        TakeOrPay x = Check.told("years 1;days 2;quantity 10;paid 50;day 0 4;made first;rest 14;start 0;chance 0 4 0 0;");
+        int[][] asked = {{2, 2, 1, -1300}, {2, 3, 0, -800}, {2, 1, 2, -1800}, {1, 1, 1, -1900}, {12, 8, 4, 800},
+            {12, 1, 4, 800 - 8000}, {5, 5, 1, 500}, {1, 8, 0, 100}, {0, 1, 0, -2000}, {3, 0, 4, 300 - 2500},
+            {2, 2, 1, -1300}};
+        for (int[] a : asked) {
+            due("best of " + a[0] + " " + a[1], x.best(0, 0, a[0], a[1], 0), a[2]);
+            due("worth of " + a[0] + " " + a[1], x.worth(0, 0, a[0], a[1], 0, 0), a[3]);
+        }
+        due("two COUNTED", x.worth(0, 2, 2, 2, 0, 0), -300);
+        x.shut(1, 0);
+        due("2 made up, 2 of 3", x.worth(0, 0, 2, 2, 0, 0), 200 - 1000 - 2000);
+    }
+
     private static void badPlaces(TakeOrPay x) {
         int[][] wrong = {{1, 0, 0, 0, 0}, {-1, 0, 0, 0, 0}, {0, 21, 0, 0, 0}, {0, -1, 0, 0, 0}, {0, 0, 13, 0, 0},
             {0, 0, -1, 0, 0}, {0, 0, 0, 9, 0}, {0, 0, 0, -1, 0}, {0, 0, 0, 0, 3}, {0, 0, 0, 0, -1},
@@ -654,6 +693,7 @@ public final class PromisesTest {
         due("TAKEN", shorts.units(0), 8);
         due("3 short, then 2 of 3 made up in day 2, 1 in day 3: 6 short", shorts.units(2), 9);
         due("made up", shorts.units(4), 3);
+        due("by 1", shorts.units(5), 1);
         TakeOrPay late = Check.told("years 2;days 2;paid 100;quantity 7;day 2 2;made last;");
         due("7 DUE come first", late.units(4), 0);
         due("3 short twice", late.units(2), 6);
@@ -723,6 +763,8 @@ public final class PromisesTest {
         due("3 of 12 at COUNTED 9", at20.jumps(0, 0, 0, 0, 1), 9);
         due("MADE 2: at 12 and above 2", at20.jumps(0, 2, 0, 0, 0), 10);
         due("MADE 2", at20.jumps(0, 2, 0, 0, 1), 11);
+        TakeOrPay carried = Check.told("years 2;days 1;quantity 12;paid 100;day 0 1;carried;");
+        due("one above QUANTITY saves one SHORT, but 20 is the most", carried.jumps(0, 0, 0, 0, 1), 20);
         x.shut(0, 0);
         due("SHUT", x.jumps(0, 0, 0, 0, 0), STATE);
         due("SHUT", x.jumps(0, 0, 0, 0, 1), STATE);
@@ -823,6 +865,11 @@ public final class PromisesTest {
         x.day(1, 0);
         x.day(1, 0);
         rowIs(x, 4, 1, 0, 0, 6, 21200, -1700, 0);
+        x.back();
+        x.back();
+        x.back();
+        x.back();
+        rowIs(x, 0, NONE, 0, 0, 0, 0, 0, 0);
         TakeOrPay least = Check.told("day 2 3;");
         least.shut(0, 1);
         least.day(0, 0);
@@ -926,6 +973,15 @@ public final class PromisesTest {
         due("12 days at 15", twelve.came(0), -24000);
         due("444444444444", twelve.came(1), 244140624);
         due("what of a row that is not whole", new TakeOrPay().came(2), -1000000);
+        TakeOrPay made = Check.told("years 2;days 1;quantity 4;paid 50;day 0 4;made first;");
+        made.day(0, 0);
+        made.day(2, 0);
+        due("2 short at 20, made up at 30, with 2 more", made.came(0), 6000 + 2000 - 4000);
+        due("0 4", made.came(1), 4);
+        made.back();
+        made.day(0, 0);
+        due("2 at 15, then 2 at 15", made.came(0), -2000);
+        due("0 4 costs as much as 2 2 and is less", made.came(1), 4);
     }
 
     private static void draw() {
@@ -976,9 +1032,11 @@ public final class PromisesTest {
         due("BAD is the first that fits", x.sheet(0, 3, -1), BAD);
         due("what is refused changes nothing", x.count(4), 0);
         x.sheet(1, 1, 4);
+        x.lay(1, 0, 2);
         x.lay(1, 1, 3);
         x.sheet(1, 1, 4);
         due("read", x.read(1, 1, 0, 1), 1);
+        due("cells are 0 anew", x.rowOf(0, 0), 0);
         due("cells are 0 anew", x.rowOf(0, 1), 0);
     }
 
@@ -1125,5 +1183,70 @@ public final class PromisesTest {
         for (int what : wrong) {
             due("what", x.count(what), BAD);
         }
+    }
+
+    /** One day at 15 next door, 2 of 4 paid: what the page is worth follows each change of it. */
+    private static void pageChanges() {
+        CHECK.at("promises 4, 7, what is known of the page");
+        TakeOrPay x = Check.told(ONE + "quantity 4;paid 50;free seller;");
+        for (int i = 0; i < 2; i++) {
+            due("best", x.best(0, 0, 0, 0, 0), 2);
+            due("whole", x.whole(0, 0), -1000);
+            due("seller", x.whole(1, 0), 2000);
+            due("taken", x.units(0), 2);
+            due("without paid", x.without(0, 0, 0), 1000);
+            due("without free", x.without(6, 0, 0), 0);
+            due("TOP 1 of PAID 30: all three; TOP 2 of 50 and 70: at 19, 20", x.offers(0), 7);
+            x.shut(0, 1);
+            due("best", x.best(0, 0, 0, 0, 0), 0);
+            due("whole", x.whole(0, 0), 0);
+            due("seller", x.whole(1, 0), 0);
+            due("taken", x.units(0), 0);
+            due("without paid", x.without(0, 0, 0), 0);
+            due("without free", x.without(6, 0, 0), -4000);
+            due("offers", x.offers(0), 9);
+            x.shut(0, 2);
+            due("best", x.best(0, 0, 0, 0, 0), 0);
+            due("whole", x.whole(0, 0), -4000);
+            due("short", x.units(2), 2);
+            due("offers", x.offers(0), 7);
+            Check.feed(x, ONE + "quantity 4;paid 50;made first;");
+            x.page();
+            due("best", x.best(0, 0, 0, 0, 0), 2);
+            due("short", x.units(2), 0);
+            due("made up", x.units(4), 0);
+            Check.feed(x, ONE + "quantity 4;paid 50;free seller;");
+            x.page();
+        }
+        Check.feed(x, "base 0;");
+        x.page();
+        due("a page that is refused changes nothing", x.whole(0, 0), -1000);
+    }
+
+    /** What came() answers follows each change of the row. */
+    private static void rowChanges() {
+        CHECK.at("promises 20, 21, 25, 26, 29, what is known of the row");
+        TakeOrPay x = Check.told("years 1;days 2;paid 0;day 0 1;chance 1 0 4 0;");
+        x.day(2, 0);
+        x.day(2, 0);
+        due("two at 30", x.came(0), 2000);
+        due("1 1", x.came(1), 6);
+        x.back();
+        x.day(0, 0);
+        due("one at 30", x.came(0), 1000);
+        due("1 0", x.came(1), 5);
+        x.draw(3);
+        due("drawn: 20 always", x.came(0), 0);
+        due("0 0", x.came(1), 0);
+        x.back();
+        x.sheet(0, 0, 2);
+        x.lay(0, 0, 2);
+        x.read(0, 0, 0, 1);
+        due("read: 20, 30", x.came(0), 1000);
+        due("0 1", x.came(1), 1);
+        x.shut(1, 0);
+        due("SHUT", x.came(0), 0);
+        x.shut(1, NONE);
+        due("not SHUT", x.came(0), 1000);
     }
 }
