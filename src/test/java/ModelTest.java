@@ -9,11 +9,13 @@ public final class ModelTest {
     private final Random random;
     private final TakeOrPay x = new TakeOrPay();
     private final Model m = new Model();
+    private final int leastYears;
     private final int mostYears;
     private final int mostDays;
 
-    private ModelTest(long seed, int mostYears, int mostDays) {
+    private ModelTest(long seed, int leastYears, int mostYears, int mostDays) {
         random = new Random(seed);
+        this.leastYears = leastYears;
         this.mostYears = mostYears;
         this.mostDays = mostDays;
         CHECK.at("seed " + seed);
@@ -21,13 +23,16 @@ public final class ModelTest {
 
     public static void main(String[] args) {
         for (int seed = 0; seed < 400; seed++) {
-            new ModelTest(seed, 3, 3).run(120);
+            new ModelTest(seed, 1, 3, 3).run(120);
         }
         for (int seed = 1000; seed < 1040; seed++) {
-            new ModelTest(seed, 4, 5).run(60);
+            new ModelTest(seed, 1, 4, 5).run(60);
         }
         for (int seed = 2000; seed < 2300; seed++) {
-            new ModelTest(seed, 2, 2).texts(30);
+            new ModelTest(seed, 1, 2, 2).texts(30);
+        }
+        for (int seed = 3000; seed < 3012; seed++) {
+            new ModelTest(seed, 4, 4, 5).run(60);
         }
         CHECK.finish();
     }
@@ -73,7 +78,9 @@ public final class ModelTest {
 
     private String goodText() {
         StringBuilder b = new StringBuilder();
-        b.append("years ").append(1 + below(mostYears)).append(";days ").append(1 + below(mostDays)).append(";");
+        int years = leastYears + below(mostYears - leastYears + 1);
+        int days = leastYears > 1 ? mostDays : 1 + below(mostDays);
+        b.append("years ").append(years).append(";days ").append(days).append(";");
         String[] lines = {"quantity " + (1 + below(16)), "paid " + below(101), "base " + (1 + below(60)),
             "index " + below(101), "surcharge " + below(21), "rest " + below(61), "carried", "notice",
             "cost " + below(61), "start " + below(3), "made first", "free nobody", "free seller", "free buyer"};

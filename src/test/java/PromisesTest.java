@@ -676,6 +676,15 @@ public final class PromisesTest {
         TakeOrPay index = Check.told("years 1;days 1;paid 0;day 1 1;index 50;notice;cost 0;chance 1 1 0 3;");
         due("mean 26.25", index.whole(1, 0), 4625);
         due("by 2", index.whole(1, 1), 2);
+        // The most that 20 days can cost: 80 units bought at 60, sold at 1, 76 with a surcharge of 20.
+        TakeOrPay most = Check.told("years 4;days 5;quantity 1;paid 0;day 4 4;base 60;surcharge 20;cost 60;price 1 1;chance 1 0 4 0;");
+        due("20 days, buyer", most.whole(0, 0), -80 * 5900 - 76 * 2000);
+        due("20 days, seller", most.whole(1, 0), 76 * 2000);
+        due("a place of the last day", most.worth(19, 20, 12, 8, 1, 0), -4 * 7900);
+        // At 21 the first time, 1 of 4 each day to stay there: 100 by 1 less a fourth to the 20th.
+        TakeOrPay fine = Check.told("years 4;days 5;paid 0;day 0 1;price 1 21;price 2 20;chance 1 0 1 3;chance 2 0 0 4;");
+        due("20 days, by 4 to the 19th", fine.whole(0, 1), 1L << 36);
+        due("20 days, 100 (4 to the 20th less 1) by 3", fine.whole(0, 0), 25 * (((1L << 40) - 1) / 3));
         due("who", x.whole(2, 0), BAD_WORTH);
         due("who", x.whole(-1, 0), BAD_WORTH);
         due("what", x.whole(0, 2), BAD_WORTH);
@@ -697,6 +706,11 @@ public final class PromisesTest {
         TakeOrPay late = Check.told("years 2;days 2;paid 100;quantity 7;day 2 2;made last;");
         due("7 DUE come first", late.units(4), 0);
         due("3 short twice", late.units(2), 6);
+        TakeOrPay over = Check.told("years 2;days 5;quantity 12;paid 100;day 4 4;carried;");
+        for (int day = 5; day < 10; day++) {
+            over.shut(day, 0);
+        }
+        due("20 COUNTED, CREDIT 8 of 12", over.units(2), 4);
         int[] wrong = {-1, 6, LOW, HIGH};
         for (int what : wrong) {
             due("what", x.units(what), BAD);
@@ -798,6 +812,11 @@ public final class PromisesTest {
         due("BASE", high.offers(2), 60);
         TakeOrPay half = Check.told("years 1;days 2;quantity 1;paid 100;day 0 1;base 20;start 0;chance 0 2 2 0;price 0 19;price 1 21;cost 0;");
         due("denominator is above 0", half.offers(4) > 0 ? 1 : 0, 1);
+        due("PAID 101 is none: 61, 81 with 19, 20", Check.told(ONE + "quantity 1;paid 81;day 1 1;").offers(0), 4);
+        due("PAID 100 is one", Check.told(ONE + "quantity 1;paid 80;day 1 1;").offers(0), 6);
+        due("PAID -1 is none", Check.told(ONE + "quantity 1;paid 19;day 1 1;").offers(0), 4);
+        due("BASE 61 is none", Check.told(ONE + "quantity 1;paid 0;day 0 0;base 60;").offers(0), 4);
+        due("BASE 60 is one", Check.told(ONE + "quantity 1;paid 0;day 0 0;base 59;").offers(0), 6);
         due("the page stays", x.told(5), 20);
         due("the page stays", x.told(6), 20);
         int[] wrong = {-1, 5, LOW, HIGH};
