@@ -32,6 +32,27 @@ final class Check {
         return wrong > 0;
     }
 
+    int asked() {
+        return asked;
+    }
+
+    /** A new object refuses the text by a fault at a place. */
+    void refused(String text, int fault, int place) {
+        TakeOrPay x = new TakeOrPay();
+        feed(x, text);
+        due("page of '" + text + "'", x.page(), -10 - place);
+        due("fault of '" + text + "'", x.fault(), fault);
+    }
+
+    /** A new object takes the text: so many lines, and what it tells then. */
+    void taken(String text, int lines, int what, int told) {
+        TakeOrPay x = new TakeOrPay();
+        feed(x, text);
+        due("page of '" + text + "'", x.page(), lines);
+        due("fault of '" + text + "'", x.fault(), 0);
+        due("told of '" + text + "'", x.told(what), told);
+    }
+
     void finish() {
         System.out.println(asked + " answers asked, " + wrong + " not as due");
         if (wrong > 0 || asked == 0) {

@@ -174,18 +174,11 @@ public final class PromisesTest {
     }
 
     private static void refused(String text, int fault, int place) {
-        TakeOrPay x = new TakeOrPay();
-        Check.feed(x, text);
-        due("page of '" + text + "'", x.page(), -10 - place);
-        due("fault of '" + text + "'", x.fault(), fault);
+        CHECK.refused(text, fault, place);
     }
 
     private static void taken(String text, int lines, int what, int told) {
-        TakeOrPay x = new TakeOrPay();
-        Check.feed(x, text);
-        due("page of '" + text + "'", x.page(), lines);
-        due("fault of '" + text + "'", x.fault(), 0);
-        due("told of '" + text + "'", x.told(what), told);
+        CHECK.taken(text, lines, what, told);
     }
 
     private static void tokens() {
