@@ -35,6 +35,40 @@ public final class BoundaryBestTest extends Boundary {
         due("DUE 12 less 8 less 3 and MADE 0", x.best(19, 3, 0, 8, 0), 1);
     }
 
+    @Sentence(promise = 12, words = "THE BEST: x.")
+    static void everyPlace() {
+        for (int made = 0; made <= 12; made++) {
+            for (int credit = 0; credit <= 8; credit++) {
+                everyCounted(made, credit, made % 2 == 0 ? "made last;" : "made first;");
+            }
+        }
+    }
+
+    /** Two DAYS at 15: on each the most of what is won by takes() and, a DAY on, by worth() or ends(). */
+    private static void everyCounted(int made, int credit, String how) {
+        String page = "years 1;days 2;quantity 12;paid 100;day 0 3;start 0;chance 0 4 0 0;rest 14;surcharge 2;" + how;
+        for (int day = 0; day < 2; day++) {
+            TakeOrPay x = told(page);
+            for (int counted = 0; counted <= 20; counted++) {
+                long most = Long.MIN_VALUE;
+                int best = 0;
+                for (int taken = 0; taken <= 3; taken++) {
+                    int after = x.takes(day, counted, made, credit, 0, taken, 0);
+                    int left = x.takes(day, counted, made, credit, 0, taken, 1);
+                    long won = x.takes(day, counted, made, credit, 0, taken, 3);
+                    won += day == 0 ? x.worth(1, after, left, credit, 0, 0) : -x.ends(0, after, credit, 1);
+                    if (won > most) {
+                        most = won;
+                        best = taken;
+                    }
+                }
+                String place = "DAY " + day + " COUNTED " + counted + " MADE " + made + " CREDIT " + credit;
+                due("best of " + place, x.best(day, counted, made, credit, 0), best);
+                due("worth of " + place, x.worth(day, counted, made, credit, 0, 0), most);
+            }
+        }
+    }
+
     @Sentence(words = "the x of the greatest GAIN, expected, from that DAY on to the last YEAR's END, all behind being taken by THE BEST, too")
     static void toTheLastEnd() {
         String carried = "quantity 4;paid 100;day 0 4;carried;";

@@ -33,6 +33,12 @@ public final class BoundaryDayTest extends Boundary {
         days(x, 0, 9);
         due("the last YEAR's", x.row(3), 3);
         due("none beyond 12", x.takes(0, 0, 13, 0, 0, 0, 1), BAD_MONEY);
+        TakeOrPay best = told("years 2;days 3;quantity 16;paid 100;day 4 4;made first;");
+        for (int day = 0; day < 3; day++) {
+            best.shut(day, NOBODY);
+        }
+        due("THE BEST makes up all 12", best.units(4), 12);
+        due("12 are SHORT twice", best.units(2), 24);
     }
 
     @Sentence(words = "CREDIT (0 to 8: from the YEAR ahead).")
@@ -48,6 +54,12 @@ public final class BoundaryDayTest extends Boundary {
         TakeOrPay more = told("years 2;days 2;quantity 1;paid 100;carried;");
         days(more, 0, 9, 0, 9);
         due("17 above", more.row(4), 8);
+        TakeOrPay best = told("years 2;days 5;quantity 12;paid 100;day 4 4;carried;");
+        for (int day = 5; day < 10; day++) {
+            best.shut(day, NOBODY);
+        }
+        due("THE BEST has 8 of 12 by it", best.units(2), 4);
+        due("and pays for 4", best.whole(1, 0), 20 * 1000 + 4 * 2000);
     }
 
     @Sentence(words = "DUE: the YEAR's TOP less CREDIT, 0 at least.")

@@ -155,7 +155,7 @@ public final class BoundaryRowTest extends Boundary {
                 long of4 = now / 65536 % 32768 % 4;
                 int from = state;
                 state = 0;
-                for (long left = of4; left >= x.told(30 + 3 * from + state); state++) {
+                for (long left = of4; state < 2 && left >= x.told(30 + 3 * from + state); state++) {
                     left -= x.told(30 + 3 * from + state);
                 }
             }
@@ -243,6 +243,10 @@ public final class BoundaryRowTest extends Boundary {
         TakeOrPay credit = told("years 2;days 1;quantity 1;paid 100;carried;");
         days(credit, 0, 5, 0, 9);
         stands(credit, 9, 0, 4);
+        credit.back();
+        stands(credit, 0, 0, 4);
+        credit.back();
+        stands(credit, 0, 0, 0);
         TakeOrPay made = told("years 2;days 2;quantity 4;paid 100;made first;");
         days(made, 0, 1);
         stands(made, 1, 0, 0);
@@ -342,6 +346,13 @@ public final class BoundaryRowTest extends Boundary {
         due("30: 444", whole("years 1;days 3;paid 0;day 0 4;", 2).came(1), 124);
         due("one of three at 15: 001", whole("years 1;days 3;quantity 1;paid 100;", 0).came(1), 1);
         due("one DAY", whole("years 1;days 1;paid 0;day 0 4;", 2).came(1), 4);
+        due("4 of 3 and 3 at 15: 013", whole("years 1;days 3;quantity 4;paid 100;day 0 3;", 0).came(1), 8);
+        due("their GAIN", whole("years 1;days 3;quantity 4;paid 100;day 0 3;", 0).came(0), -2000);
+        TakeOrPay three = told("years 1;days 3;quantity 4;paid 100;day 0 3;");
+        days(three, 0, 0, 2, 0, 1, 0);
+        due("3 at 30, one more at 20: 031", three.came(1), 16);
+        due("1 a YEAR: 11", whole("years 2;days 1;quantity 1;paid 100;day 0 3;", 0).came(1), 6);
+        due("2 SHORT cost 4000, made up at 15 for nothing win 3000: 04 as 22", whole("years 2;days 1;quantity 4;paid 50;day 0 4;made first;", 0).came(1), 4);
         TakeOrPay x = whole("years 1;days 3;paid 0;day 4 4;", 0);
         x.shut(0, BUYER);
         due("SHUT: 044", x.came(1), 24);
@@ -397,6 +408,8 @@ public final class BoundaryRowTest extends Boundary {
                 due("what there was went", x.rowOf(0, 1), 0);
                 due("it MAY be", x.row(1), NONE);
                 due("by THE BEST", x.knew(1), 0);
+                int other = x.draw(seed ^ 0x5a5a5a);
+                due("another seed, in place of that", other, x.row(6));
                 due("the same again", x.draw(seed), gain);
             }
         }

@@ -4,6 +4,37 @@ public final class BoundaryTermsTest extends Boundary {
         runAll(BoundaryTermsTest.class);
     }
 
+    @Sentence(words = "An object is used for at most 512 calls after it has been made; what later calls answer is free.")
+    static void theLastCall() {
+        TakeOrPay x = new TakeOrPay();
+        for (int i = 0; i < 63; i++) {
+            x.shut(i % 8, i % 3);
+            x.whole(0, 0);
+            x.offers(0);
+            x.without(i % 8, 0, 0);
+            x.jumps((i + 1) % 8, i % 13, i % 9, i % 3, 0);
+            x.draw(i);
+            x.came(1);
+            x.shut(i % 8, NONE);
+        }
+        for (int i = 0; i < 6; i++) {
+            x.feed(0);
+        }
+        due("the 511th: as of a new object", x.offers(3), new TakeOrPay().offers(3));
+        due("the 512th: as of a new object", x.whole(0, 0), new TakeOrPay().whole(0, 0));
+        TakeOrPay pages = new TakeOrPay();
+        for (int i = 0; i < 256; i++) {
+            long text = Check.eight("base " + (10 + i % 50) + ";", 0);
+            due("feed", pages.feed(text), 8);
+            due("page", pages.page(), 1);
+        }
+        TakeOrPay rows = new TakeOrPay();
+        for (int i = 0; i < 256; i++) {
+            due("day", rows.day(i % 3, i % 10), 1);
+            due("back", rows.back(), 0);
+        }
+    }
+
     @Sentence(words = "BAD -1 (a number is not as told, there is no such DAY, STATE of prices, WORD, SHEET)")
     static void thereIsNoSuch() {
         TakeOrPay x = new TakeOrPay();

@@ -62,6 +62,10 @@ public final class BoundaryTextTest extends Boundary {
                 refused(text, 1, 7);
             }
         }
+        String[] names = {"abase", "zbase", "basea", "basez", "a", "z", "aaaaaaaaaaaa", "zzzzzzzzzzzz"};
+        for (String name : names) {
+            refused(name + " 5;", 1, 0);
+        }
         taken("base 5;", 1, 6, 5);
         taken("base 05;", 1, 6, 5);
         taken("base 005;", 1, 6, 5);

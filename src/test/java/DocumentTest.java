@@ -24,8 +24,7 @@ public final class DocumentTest {
         "THE PAGE:",
         "THE BUYER sells what was TAKEN next door that day:",
         "WORTH: that GAIN.",
-        "What is owed otherwise:",
-        "THE BEST: x."
+        "What is owed otherwise:"
     };
 
     public static void main(String[] args) throws IOException {
@@ -65,10 +64,11 @@ public final class DocumentTest {
         CHECK.finish();
     }
 
-    /** The terms, then each promise without its heading and face; blanks and line ends are one blank each. */
+    /** The terms (how long an object is used with them), then each promise; without headings, faces and line ends. */
     private static String[] sections(String document) {
         String[] found = new String[PROMISES + 1];
         int terms = document.indexOf("## Terms");
+        String use = document.substring(document.indexOf("An object is used"), document.indexOf("## The public face"));
         int last = document.indexOf("## Not promised");
         String[] parts = document.substring(terms, last).split("(?m)^## ");
         CHECK.due("sections", parts.length - 1, found.length);
@@ -76,7 +76,7 @@ public final class DocumentTest {
             String text = parts[i + 1].substring(parts[i + 1].indexOf('\n'));
             text = text.replaceAll("(?m)^Ahead of the calls.*$", "").replace("```text", "").replace("```", "");
             text = text.replaceAll("`[^`]*`:", "").replaceAll("={8} [0-9]", "");
-            found[i] = text.replaceAll("\\s+", " ").trim();
+            found[i] = (i == 0 ? use + text : text).replaceAll("\\s+", " ").trim();
         }
         return found;
     }

@@ -12,6 +12,8 @@ import java.util.Set;
 /** What an object takes of the room: its objects, its fields and elements, and that calls add nothing. */
 public final class RoomTest {
     private static final Check CHECK = new Check();
+    // So that an object is asked less than 512 times.
+    private static final int TIMES = 18;
     private static final String DEAREST = "years 4;days 5;quantity 8;day 0 4;paid 80;made last;rest 3;carried;"
         + "index 30;surcharge 3;price 0 8;price 2 33;free seller;";
 
@@ -26,11 +28,11 @@ public final class RoomTest {
         CHECK.holds("far below 7.3 million", before < 150_000);
         ThreadMXBean bean = (ThreadMXBean) ManagementFactory.getThreadMXBean();
         long bytes = bean.getCurrentThreadAllocatedBytes();
-        for (int i = 1; i < 40; i++) {
+        for (int i = 1; i < TIMES; i++) {
             everyCall(x, i);
         }
         long made = bean.getCurrentThreadAllocatedBytes() - bytes;
-        System.out.println(made + " bytes were made by 40 times every call");
+        System.out.println(made + " bytes were made by " + TIMES + " times every call");
         CHECK.holds("calls make nothing", made < 20_000);
         CHECK.due("calls keep nothing", elements(x), before);
         CHECK.finish();
