@@ -1485,10 +1485,11 @@ public final class TakeOrPay {
         }
 
         private void reckonWhole() {
+            // First of all: those who ask for trials behind this rest on it.
+            makeTrialRoom();
             if (wholeKnown) {
                 return;
             }
-            makeTrialRoom();
             spread.reckon(bestFrom(0, 0, 0, 0));
             wholes[BUYER] = spread.buyer;
             wholes[SELLER] = spread.seller;
